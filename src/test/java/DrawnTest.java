@@ -25,6 +25,9 @@ public final class DrawnTest {
         Check.eq("960", x.now(0), 960);
         Check.eq("drawn(40) from 960", x.drawn(40, 1), -1);
         Check.is("odds from 960", x.odds(0, 1, 1) >= 0);
+        x.years(9);
+        Check.is("odds from 969", x.odds(0, 1, 1) >= 0);
+        x.undo();
         Check.eq("drawn(10) from 960", x.drawn(10, 1), 970);
         Check.eq("odds from 970", x.odds(0, 1, 1), -1);
         Check.eq("drawn(30) from 970", x.drawn(30, 1), -1);

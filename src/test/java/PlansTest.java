@@ -9,6 +9,7 @@ public final class PlansTest {
         who();
         worn();
         wornOnes();
+        wornBehindAnother();
         gifts();
         giftsOfLikeHarm();
         giftsThatMayNotBe();
@@ -149,6 +150,15 @@ public final class PlansTest {
             + "error l p c b 20 1 0;deed d c c a;deed h c b c;deed k b c c;deed m c;");
         worn(x, 1, 1, 1, 1 * 3 * 2 - 5);
         worn(x, 0, 9, 0, 9 * 6 + 2 * 3 - 9 * 5 + 16 * 3);
+    }
+
+    /** As long as f is not worn out, e is not made. */
+    private static void wornBehindAnother() {
+        String kin = "step a;step b;step c;person p 1;error f p a c 1 0 0;error e p a b ";
+        worn(Check.of(kin + "19 1 0;deed d a;"), 1, 20, 0, 19);
+        worn(Check.of(kin + "20 1 0;deed d a;"), 1, -1, -1, -100001);
+        worn(Check.of(kin + "20 1 0;deed d a;deed g a a;"), 1, 11, 1, 20);
+        worn(Check.of(kin + "20 1 0;"), 1, -1, -1, -100001);
     }
 
     private static void gifts(SlipHeirs x, int least, int... due) {
