@@ -311,7 +311,7 @@ public final class SlipHeirs {
 
     public int who(int d) {
         int length = text.takeAll();
-        if (!house.has(DEEDS, d) || length != house.lengths[d] || !tellsSteps(length)) {
+        if (!house.has(DEEDS, d) || length != house.lengths[d]) {
             return NONE;
         }
         int bits = 0;
@@ -372,7 +372,7 @@ public final class SlipHeirs {
     }
 
     public int gift(int e) {
-        return e < 0 || e >= MOST_ERRORS ? NONE : giftRow[e];
+        return house.has(ERRORS, e) ? giftRow[e] : NONE;
     }
 
     public int together(int set, int s) {

@@ -92,6 +92,55 @@ final class Check {
         return x.sentence();
     }
 
+    /** Reads a text as a FAMILY (f), a CHRONICLE that is only judged (c) or a SENTENCE (s). */
+    static int read(SlipHeirs x, char sort, String text) {
+        put(x, text);
+        return sort == 'f' ? x.family() : sort == 'c' ? x.chronicle(0) : x.sentence();
+    }
+
+    /** The text has no FAULT and answers what is due. */
+    static void reads(SlipHeirs x, char sort, String text, int due) {
+        eq(sort + " <" + text + ">", read(x, sort, text), due);
+        eq("fault of " + sort + " <" + text + ">", x.fault(), 0);
+        eq("tape behind " + sort + " <" + text + ">", x.count(4), 0);
+    }
+
+    static void faultAt(SlipHeirs x, char sort, String text, int place, int kind) {
+        eq(sort + " <" + text + ">", read(x, sort, text), (sort == 'c' ? -2 : -1) - place);
+        eq("fault of " + sort + " <" + text + ">", x.fault(), kind);
+        eq("tape behind " + sort + " <" + text + ">", x.count(4), 0);
+    }
+
+    /** The FAULT stands where the sign ! stands in the marked text. */
+    static void faultAt(SlipHeirs x, char sort, String marked, int kind) {
+        int place = marked.indexOf('!');
+        faultAt(x, sort, marked.substring(0, place) + marked.substring(place + 1), place, kind);
+    }
+
+    /** A family that has of each sort as many as there may be: a line of ten, each the next one's godparent. */
+    static String full() {
+        StringBuilder text = new StringBuilder();
+        for (char c = 'a'; c <= 'f'; c++) {
+            text.append("step ").append(c).append(';');
+        }
+        for (char c = 'a'; c <= 'j'; c++) {
+            text.append("person p").append(c).append(' ').append(291 + c - 'a');
+            text.append(c == 'a' ? ";" : " of p" + (char) (c - 1) + ";");
+            text.append("care p").append(c).append(' ').append(c - 'a').append(';');
+        }
+        for (char c = 'a'; c <= 'j'; c++) {
+            text.append("god p").append(c).append(" p").append(c == 'j' ? 'a' : (char) (c + 1)).append(';');
+        }
+        for (char c = 'a'; c <= 'e'; c++) {
+            text.append("error e").append(c).append(" p").append(c).append(' ').append(c).append(' ').append((char) (c + 1)).append(" 20 20 20;");
+        }
+        text.append("error ef pj f a 1 0 0;");
+        for (char c = 'a'; c <= 'd'; c++) {
+            text.append("deed d").append(c).append(repeat(" " + c, c == 'a' ? 12 : 1)).append(';');
+        }
+        return text.toString();
+    }
+
     /** Whether person(p, what) throws NoSuchElementException. */
     static boolean noPerson(SlipHeirs x, int p, int what) {
         try {

@@ -1116,9 +1116,6 @@ public final class ModelTest {
                     wanted[any(wanted.length)] = any(8);
                 }
             }
-            for (int s : wanted) {
-                fine &= s < kin.steps.size();
-            }
             int due = -1;
             if (fine) {
                 int[] row = wanted;
@@ -1185,11 +1182,12 @@ public final class ModelTest {
             eq("worn(" + e + ")", x.worn(e), answer == null ? -1 : answer[0]);
             eq("wornBy()", x.wornBy(), worn[1]);
             eq("wornLoss()", x.wornLoss(), worn[2]);
-            int[] given = world.gifts();
-            gifts = Arrays.copyOfRange(given, 1, given.length);
-            eq("gifts()", x.gifts(), given[0]);
-            for (int i = -1; i < 7; i++) {
-                eq("gift(" + i + ")", x.gift(i), i < 0 || i >= gifts.length ? -1 : gifts[i]);
+            askGifts();
+            if (any(2) == 0) {
+                int[] given = world.gifts();
+                gifts = Arrays.copyOfRange(given, 1, given.length);
+                eq("gifts()", x.gifts(), given[0]);
+                askGifts();
             }
             int n = any(4) == 0 ? near(42) : 1 + any(3);
             int seed = random.nextInt();
@@ -1264,6 +1262,13 @@ public final class ModelTest {
                 eq("together(" + set + ", " + s + ")", x.together(set, s), fine && there ? kin.by(set, s) : -1);
             }
             eq("rests(" + set + ")", x.rests(set), fine ? kin.rests(set) : -1);
+        }
+
+        /** By the latest gifts(), of the ERRORS that there are now. */
+        void askGifts() {
+            for (int i = -1; i < 7; i++) {
+                eq("gift(" + i + ")", x.gift(i), slip(i) && i < gifts.length ? gifts[i] : -1);
+            }
         }
 
         void askSaid() {

@@ -104,8 +104,8 @@ public final class PlansTest {
         Check.eq("too few", who(x, 0, 0), -1);
         Check.eq("too many", who(x, 0, 0, 2, 0), -1);
         Check.eq("none", who(x, 0), -1);
-        Check.eq("no step", who(x, 0, 0, 3), -1);
-        Check.eq("no step", who(x, 0, 0, 255), -1);
+        Check.eq("what is no step comes of nobody", who(x, 0, 0, 3), 0);
+        Check.eq("what is no step comes of nobody", who(x, 0, 0, 255), 0);
         Check.eq("no such deed", who(x, 3, 0), -1);
         for (int i : WILD) {
             Check.eq("no such deed " + i, who(x, i, 0, 2), -1);
