@@ -10,6 +10,7 @@ public final class CallBoundsTest {
         drawing();
         texts();
         images();
+        upTo512Calls();
         Check.close("CallBoundsTest");
     }
 
@@ -93,6 +94,14 @@ public final class CallBoundsTest {
         int[] row = beyond(n);
         row[0] = -32;
         return row;
+    }
+
+    private static void upTo512Calls() {
+        SlipHeirs x = new SlipHeirs();
+        for (int i = 1; i < 512; i += 2) {
+            Check.eq("call " + i, x.years(99), 399);
+            Check.eq("call " + (i + 1), x.undo(), 0);
+        }
     }
 
     private static void promise1NewObject() {
