@@ -311,7 +311,7 @@ public final class SlipHeirs {
 
     public int who(int d) {
         int length = text.takeAll();
-        if (!house.has(DEEDS, d) || length != house.lengths[d]) {
+        if (!house.has(DEEDS, d) || length != house.lengths[d] || !tellsSteps(length)) {
             return NONE;
         }
         int bits = 0;
@@ -372,7 +372,8 @@ public final class SlipHeirs {
     }
 
     public int gift(int e) {
-        return house.has(ERRORS, e) ? giftRow[e] : NONE;
+        // The ERRORS are those of the latest gifts(): the FAMILY may be another by now.
+        return e < 0 || e >= MOST_ERRORS ? NONE : giftRow[e];
     }
 
     public int together(int set, int s) {

@@ -558,6 +558,11 @@ public final class CallBoundsTest {
         Check.eq("no bytes", who(x, 3), -1);
         Check.eq("two bytes", who(x, 3, 3, 3), -1);
         Check.eq("nobody", who(x, 3, 0), 0);
+        Check.eq("the last STEP", who(x, 3, 5), 0);
+        for (int none : new int[] {6, 7, 127, 128, 253, 254, 255}) {
+            Check.eq("a byte that is no STEP: " + none, who(x, 3, none), -1);
+            Check.eq("the last of twelve: " + none, who(x, 0, 1, 1, 1, 1, 1, 1, 1, 1, 1, 1, 1, none), -1);
+        }
         for (int i : beyond(4)) {
             Check.eq("who(" + i + ")", who(x, i, 3), -1);
         }
@@ -617,7 +622,17 @@ public final class CallBoundsTest {
         Check.eq("who has no godchild keeps it", y.gifts(), 7);
         Check.eq("who has it", y.gift(0), 0);
         Check.family(x, "step a;step b;person p 5;error e p a b 1 7 0;");
-        Check.eq("no such ERROR now", x.gift(1), -1);
+        for (int e = 0; e < 6; e++) {
+            Check.eq("gift(" + e + ") by the gifts() ahead of another FAMILY", x.gift(e), due[e]);
+        }
+        for (int e : beyond(6)) {
+            Check.eq("gift(" + e + ") behind another FAMILY", x.gift(e), -1);
+        }
+        x.gifts();
+        Check.eq("of that FAMILY", x.gift(0), 0);
+        Check.eq("no such ERROR by it", x.gift(1), -1);
+        Check.eq("again as many as may be", Check.family(x, Check.full()), 46);
+        Check.eq("no such ERROR by the latest gifts()", x.gift(1), -1);
     }
 
     private static void promise29Together() {

@@ -11,6 +11,7 @@ public final class PlansTest {
         wornOnes();
         wornBehindAnother();
         gifts();
+        giftsStay();
         giftsOfLikeHarm();
         giftsThatMayNotBe();
         Check.close("PlansTest");
@@ -104,8 +105,11 @@ public final class PlansTest {
         Check.eq("too few", who(x, 0, 0), -1);
         Check.eq("too many", who(x, 0, 0, 2, 0), -1);
         Check.eq("none", who(x, 0), -1);
-        Check.eq("what is no step comes of nobody", who(x, 0, 0, 3), 0);
-        Check.eq("what is no step comes of nobody", who(x, 0, 0, 255), 0);
+        for (int byteOfNone : new int[] {3, 4, 10, 127, 128, 254, 255}) {
+            Check.eq("no STEP behind", who(x, 0, 0, byteOfNone), -1);
+            Check.eq("no STEP ahead", who(x, 0, byteOfNone, 2), -1);
+            Check.eq("no STEP alone", who(x, 2, byteOfNone), -1);
+        }
         Check.eq("no such deed", who(x, 3, 0), -1);
         for (int i : WILD) {
             Check.eq("no such deed " + i, who(x, i, 0, 2), -1);
@@ -186,6 +190,37 @@ public final class PlansTest {
         x.die(0);
         x.die(2);
         gifts(x, 2, -1, -1, 1, -1);
+    }
+
+    private static void told(String when, SlipHeirs x, int... due) {
+        for (int e = 0; e < due.length; e++) {
+            Check.eq("gift(" + e + ") " + when, x.gift(e), due[e]);
+        }
+    }
+
+    /** What the latest gifts() told is taken back by nothing but another gifts(). */
+    private static void giftsStay() {
+        SlipHeirs x = Check.kin();
+        x.image(0);
+        x.gifts();
+        x.family();
+        told("behind an empty FAMILY", x, 4, 0, 1, -1, -1, -1, -1);
+        Check.eq("gifts() of no ERRORS", x.gifts(), 0);
+        told("by that one", x, -1, -1, -1, -1, -1, -1, -1);
+        Check.family(x, "step a;step b;person p 5;person q 6;error e q a b 1 7 0;");
+        told("still by that one", x, -1, -1, -1, -1, -1, -1, -1);
+        x.gifts();
+        told("of one ERROR", x, 1, -1, -1, -1, -1, -1, -1);
+        x.restore(0);
+        told("behind a restored FAMILY of three", x, 1, -1, -1, -1, -1, -1, -1);
+        x.gifts();
+        told("of three again", x, 4, 0, 1, -1, -1, -1, -1);
+        Check.family(x, "step a;step b;person p 5;error e p a a 1 7 0;");
+        told("behind a FAULT", x, 4, 0, 1, -1, -1, -1, -1);
+        Check.family(x, "step a;step b;person p 5;error e p a b 1 7 0;");
+        x.act(0, 0);
+        x.die(0);
+        told("behind a FAMILY of one", x, 4, 0, 1, -1, -1, -1, -1);
     }
 
     private static void giftsOfLikeHarm() {
