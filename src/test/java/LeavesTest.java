@@ -11,6 +11,7 @@ public final class LeavesTest {
         refusedImages();
         asked();
         tellsOfItsOwn();
+        toldLastStays();
         tapeOfEachCall();
         Check.close("LeavesTest");
     }
@@ -149,6 +150,35 @@ public final class LeavesTest {
         Check.eq("the year", x.now(0), 305);
         Check.eq("done", x.now(5), 2);
         Check.eq("four can be undone", x.undo(), 3);
+    }
+
+    /** What plan(), worn(), gifts() and chronicle() told last; those that ask for it look at nothing that is so by now. */
+    private static String toldLast(SlipHeirs x) {
+        StringBuilder text = new StringBuilder();
+        for (int i = -1; i < 7; i++) {
+            text.append(x.planned(i)).append(' ').append(x.gift(i)).append(' ').append(x.told(i)).append(' ');
+        }
+        return text.append(x.wornBy()).append(' ').append(x.wornLoss()).toString();
+    }
+
+    private static void stays(String call, String tape, ToIntFunction<SlipHeirs> act) {
+        SlipHeirs x = lived(tape);
+        String ahead = toldLast(x);
+        act.applyAsInt(x);
+        String behind = toldLast(x);
+        Check.is("what was told last stays behind " + call + ":\n" + ahead + "\n" + behind, behind.equals(ahead));
+    }
+
+    private static void toldLastStays() {
+        stays("an empty FAMILY", "", SlipHeirs::family);
+        stays("a FAMILY of one PERSON", "person p 5;", SlipHeirs::family);
+        stays("a FAMILY of one ERROR", "step a;step b;person p 5;error e p a b 1 7 0;deed d a;", SlipHeirs::family);
+        stays("another FAMILY's acts", "step a;step b;person p 5;error e p a b 1 7 0;deed d a;", x -> x.family() + x.act(0, 0) + x.die(0));
+        stays("undoing", "", x -> x.undo() + x.undo() + x.undo());
+        stays("restoring", "", x -> x.restore(1) ? 1 : 0);
+        stays("restoring behind an empty FAMILY", "", x -> x.family() + (x.restore(1) ? 1 : 0));
+        stays("deaths", "", x -> x.die(0) + x.die(1) + x.die(2) + x.die(4));
+        stays("YEARS DRAWN", "", x -> x.drawn(60, 5));
     }
 
     private static void tape(String call, int left, ToIntFunction<SlipHeirs> act) {
