@@ -2,6 +2,8 @@ import java.lang.reflect.Constructor;
 import java.lang.reflect.Field;
 import java.lang.reflect.Method;
 import java.lang.reflect.Modifier;
+import java.util.List;
+import java.util.NoSuchElementException;
 import java.util.Set;
 import java.util.TreeSet;
 
@@ -34,8 +36,19 @@ public final class FaceTest {
         for (Method method : SlipHeirs.class.getDeclaredMethods()) {
             Check.is("private " + method, !Modifier.isPrivate(method.getModifiers()) || !names.contains(method.getName()));
         }
+        Check.eq("NONE", SlipHeirs.NONE, -1);
+        toldExceptions();
         insideClasses(names);
         Check.close("FaceTest");
+    }
+
+    /** person() and loss() alone say what they throw, as in the document. */
+    private static void toldExceptions() {
+        for (Method method : SlipHeirs.class.getDeclaredMethods()) {
+            boolean throwing = method.getName().equals("person") || method.getName().equals("loss");
+            List<Class<?>> due = throwing ? List.of(NoSuchElementException.class) : List.of();
+            Check.is("what " + method + " throws", List.of(method.getExceptionTypes()).equals(due));
+        }
     }
 
     private static void insideClasses(Set<String> names) {
